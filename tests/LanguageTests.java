@@ -25,6 +25,7 @@ public final class LanguageTests {
         face(code);
         methods(code);
         classes(code);
+        objects(code);
         if (wrong != 0) {
             System.exit(1);
         }
@@ -133,6 +134,17 @@ public final class LanguageTests {
         }
         if (heads.size() > 12) {
             fail("11", heads.size() + " classes");
+        }
+    }
+
+    /** All that is made is made with an object of the class: by what fields begin with, or in a constructor. */
+    private static void objects(String code) {
+        for (String line : code.split("\n")) {
+            boolean isField = line.matches("\\s+(private )?(static )?final .* = new .*;");
+            boolean isOfConstructor = line.matches(" {12}\\w+\\[i\\] = new \\w+\\(\\);");
+            if (line.matches(".*\\bnew\\b.*") && !isField && !isOfConstructor) {
+                fail("12", "made by a call: " + line.trim());
+            }
         }
     }
 }
