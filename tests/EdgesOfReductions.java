@@ -172,7 +172,8 @@ final class EdgesOfReductions {
         // two pairs of alike ones, the one below the other: each end has one of each pair
         Edge.text(0, "4;0=1;2=3;2>0");
         waysDue(0, 0, 8, 4, 5, 1);
-        // by weak there are ends that are not the same: two below three, and a row of seven steps around
+        // by weak there are ends that are not the same: 4 and 0, or 4 and 1, each below 5, 6, 7; and three low ones,
+        // two of them below 5, two below 6, all three below 7
         Edge.text(1, "8;1>0;2>1;3>0;5>2,4;6>1,3,4;7>2,3,4");
         waysDue(1, 4, 10, 3, 241, 2);
         waysDue(2, 4, 1, 1, 0, 1);

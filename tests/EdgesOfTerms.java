@@ -508,6 +508,12 @@ final class EdgesOfTerms {
         Edge.text(4, Shapes.CIRCLE);
         Edge.asks("fence(0, 4, " + Edge.map(0, 2) + ", " + Edge.map(1, 3) + ")", 3);
         Edge.asks("fence(2, 2, 0, 1)", Edge.NONE);
+        // a row 0 2 1 3, up, down, up: 2 goes the whole of it in three steps, but in these 0 could go from 3 to 2 and 1
+        // from 1 to 0 by a map alone that tears
+        Edge.text(0, "3;0>1");
+        Edge.text(1, "4;2>0,1;3>1");
+        Edge.asks("fence(0, 1, " + Edge.map(3, 1, 0) + ", " + Edge.map(2, 0, 3) + ")", 4);
+        Edge.asks("fence(0, 1, " + Edge.map(2, 0, 3) + ", " + Edge.map(3, 1, 0) + ")", 4);
     }
 
     // ---- 4 chains
